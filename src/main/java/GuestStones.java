@@ -225,6 +225,7 @@ public final class GuestStones {
         int columns = trial.columns;
         for (int c = 0; c < columns; c++) {
             if (trial.put(guest, c) == CAN_BE) {
+                trial.weigh();
                 int most = trial.mostStrained();
                 long upper = trial.strainUpper(most);
                 long lower = trial.strainLower(most);
@@ -694,7 +695,6 @@ public final class GuestStones {
             columns = n;
             given = 0;
             laid = 0;
-            fill(wide, 0);
             fill(cell, 0);
             fill(top, 0);
         }
@@ -768,6 +768,10 @@ public final class GuestStones {
                 return WOULD_FALL;
             }
             lay(guest, itsRow, itsColumn);
+            // A STONE in row 0 is on no other, so that no LOAD is more than before.
+            if (itsRow == 0) {
+                return CAN_BE;
+            }
             weigh();
             if (isAnyTooHeavy()) {
                 lift(guest);

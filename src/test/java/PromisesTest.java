@@ -148,6 +148,15 @@ public final class PromisesTest {
         x.guest(0, 3, 1, 1);
         build(x, "A6");
         due("at the edge of nine", x.height(8), 1);
+        // Nothing of what lay there is left, in no cell.
+        x = overhang();
+        x.wall(6);
+        x.guest(0, 2, 4, 10);
+        x.guest(2, 1, 3, 5);
+        build(x, "C1A0");
+        due("an empty cell", x.gaps(0), 1);
+        judged(x, "C-", 0, 5);
+        due("nothing else bears it", x.load(2, 0), 4);
     }
 
     static void guest() {
@@ -273,6 +282,9 @@ public final class PromisesTest {
         // Nothing is right above A, though D hangs over the COLUMN.
         judged(x, "A0C2B1C-", 3, 5);
         judged(x, "B0A1C4D2C-", NONE, NONE);
+        // The last of thirty ACTS.
+        judged(x, "A0A-A0A-A0A-A0A-A0A-A0A-A0A-A0A-A0A-A0A-A0A-A0A-A0A-A0A-A0A5", 29, 1);
+        judged(x, "A0A-A0A-A0A-A0A-A0A-A0A-A0A-A0A-A0A-A0A-A5A0A-A-A-A-A-A-A-A0", 20, 2);
         due("2", x.judge(2), OUTSIDE);
         due("-1", x.judge(-1), OUTSIDE);
         write(x, "A");
@@ -581,6 +593,10 @@ public final class PromisesTest {
         y.done();
         due("taken out", y.gaps(3), 2);
         due("empty", new GuestStones().gaps(-1), 0);
+        GuestStones z = town();
+        build(z, "C1A0");
+        due("the first column", z.gaps(0), 1);
+        due("in all", z.gaps(-1), 1);
     }
 
     static void where() {
@@ -943,9 +959,30 @@ public final class PromisesTest {
         due("one", y.look(1, 1), 1);
         y.seen(0, 0);
         due("no rows", y.look(1, 0), NONE);
+        // COLUMN 2 alone tells each from each other.
+        y = new GuestStones();
+        y.wall(4);
+        y.guest(0, 2, 1, 50);
+        y.guest(1, 2, 1, 0);
+        build(y, "A0");
+        // B0: 2 2 0 0; B1: 1 2 2 0; B2: 1 1 1 1.
+        due("a later column is better", y.look(1, 0), 2);
+        due("one is left", y.look(1, 1), 1);
         y = ten();
         due("ten guests, six columns", y.look(1, 0), 0);
         due("five columns are not it", y.look(1, 1), 50);
+        y.wall(2);
+        for (int g = 0; g < 10; g++) {
+            y.guest(g, 1, 1, 200);
+        }
+        build(y, "A0B0C0D0E0F0G0H0I0");
+        // J0: 10 0; J1: 9 1.
+        due("ten high", y.look(1, 0), 0);
+        due("one is left", y.look(1, 1), 1);
+        // J lies on both COLUMNS now: 10 10, and no other.
+        y.guest(9, 2, 1, 200);
+        due("ten high", y.look(1, 0), 0);
+        due("one is left", y.look(1, 1), 1);
     }
 
     static void weak() {
