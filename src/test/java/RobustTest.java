@@ -148,6 +148,7 @@ public final class RobustTest {
             }
             most = bean.getThreadAllocatedBytes(id) - before;
         }
+        System.out.println("RobustTest: the calls of a round made " + most + " bytes");
         if (most > 16000) {
             wrong++;
             System.out.println("calls made objects of " + most + " bytes");
